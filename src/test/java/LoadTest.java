@@ -124,6 +124,7 @@ public final class LoadTest {
         fault("FORM alone", DueSupport.letters("FORM"), 1, 4);
         fault("half a length", DueSupport.join(DueSupport.letters("FORM"), new byte[3]), 1, 7);
         fault("no IFZS", DueSupport.join(DueSupport.letters("FORM"), new byte[4]), 1, 8);
+        fault("8 bytes, a wrong length", DueSupport.join(DueSupport.letters("FORM"), DueSupport.fours(4)), 5, 4);
         fault("no chunks", form(), 8, 12);
     }
 

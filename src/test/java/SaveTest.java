@@ -5,6 +5,7 @@ public final class SaveTest {
     public static void main(String[] args) {
         plain();
         whole();
+        oneBlock();
         zeros();
         manyZeros();
         tooLong();
@@ -43,6 +44,18 @@ public final class SaveTest {
         x.poke(35, 0);
         x.push(1);
         t.dueFile("the file stays as it was", x, due);
+    }
+
+    private static void oneBlock() {
+        GlulxSaves x = new GlulxSaves(0, 16, 128);
+        x.resize(160);
+        x.block(130, 1);
+        t.due("save()", x.save(), 76);
+        t.dueFile("one block", x, DueSupport.form(DueSupport.head(0, 128),
+            DueSupport.chunk("CMem", DueSupport.fours(160)), DueSupport.chunk("Stks"),
+            DueSupport.chunk("MAll", DueSupport.fours(1, 130, 1))));
+        x.free(130);
+        t.due("save() of none", x.save(), 56);
     }
 
     private static void zeros() {
@@ -105,6 +118,10 @@ public final class SaveTest {
         }
         t.due("save() of 1232", x.save(), -4);
         t.due("the file's length stays", x.at(6) * 256 + x.at(7), 1192);
+        for (int k = 40; k > 32; k--) {
+            x.pop();
+        }
+        t.due("save() of 1200 behind a refusal", x.save(), 1200);
     }
 
     private static void fileCalls() {
