@@ -1,36 +1,34 @@
-import java.util.Arrays;
-
-/** Promises 11 and 12: what is read, every fault with its place, and which of several counts. */
-public final class LoadTest {
-    private static final DueSupport t = new DueSupport();
+/** Promises 11 and 12: what a file without a fault brings back, what stays, and what is told of the latest fault. */
+public final class LoadTest extends FileSupport {
+    private static final int LEAST = Integer.MIN_VALUE;
+    private static final int MOST = Integer.MAX_VALUE;
     private static final int SEED = 6;
     private static final int RAM = 48;
     private static final int END = 160;
-    private static final byte[] HEAD = DueSupport.head(SEED, END);
-    private static final byte[] MEMORY = DueSupport.chunk("CMem", DueSupport.fours(224));
-    private static final byte[] STACK = DueSupport.chunk("Stks", DueSupport.fours(8, 9));
-    private static final byte[] BLOCKS = DueSupport.chunk("MAll", DueSupport.fours(2, 160, 8, 168, 8));
+    private static final byte[] HEAD = head(SEED, END);
 
     public static void main(String[] args) {
-        faultBounds();
-        readWhole();
-        readWithProtected();
-        front();
-        everyCut();
-        heads();
-        seconds();
-        missing();
-        lengths();
-        memories();
-        blocks();
-        others();
-        othersAreKept();
-        orderInAChunk();
-        latestFaultStays();
-        t.finish("LoadTest");
+        SentenceSupport s = new SentenceSupport("LoadTest", args);
+        s.holds("11: M, BLOCKS, STACK are as it tells; MEMORY, too", LoadTest::whole);
+        s.holds("11: FOUR: the highest first, with sign", LoadTest::signs);
+        s.holds("11: MEMORY: from RAM up to 512", LoadTest::widestMemory);
+        s.holds("11: MEMORY: what is left out is ORIGINAL", LoadTest::leftOut);
+        s.holds("11: STACK: 0 and 40 ints", LoadTest::stacks);
+        s.holds("11: BLOCKS: none without MAll", LoadTest::noBlocks);
+        s.holds("11: OTHERS (those of THE FILE)", LoadTest::others);
+        s.holds("11: OTHERS: letters near the four", LoadTest::nearLetters);
+        s.holds("11: PROTECTED bytes that were below M and are below the new one: they stay", LoadTest::protectedBelowBoth);
+        s.holds("11: PROTECTED bytes that were not below M do not stay", LoadTest::protectedButNew);
+        s.holds("11: PROTECTED bytes that are not below the new M are gone", LoadTest::protectedButGone);
+        s.holds("11: else nothing changes", LoadTest::nothingChanges);
+        s.holds("11: THE FILE, UNDO, PROTECTED are not what is told", LoadTest::whatStays);
+        s.holds("11: what is saved comes back: 1", LoadTest::roundTrip);
+        s.holds("12: of the latest FAULT: 0 itself, 1 its place", LoadTest::latestFault);
+        s.holds("12: -2", LoadTest::faultBounds);
+        s.holds("12: -3: there was none", LoadTest::noFault);
+        s.finish();
     }
 
-    /** An object with something of everything, so that a change by a refused file would show. */
     private static GlulxSaves busy() {
         GlulxSaves x = new GlulxSaves(SEED, RAM, END);
         x.resize(192);
@@ -41,329 +39,237 @@ public final class LoadTest {
         return x;
     }
 
-    private static void fault(String name, byte[] file, int fault, int place) {
-        t.dueFault(name, busy(), file, fault, place);
-    }
-
-    private static byte[] form(byte[]... chunks) {
-        return DueSupport.form(chunks);
-    }
-
-    private static void faultBounds() {
-        GlulxSaves x = new GlulxSaves(SEED, RAM, END);
-        t.due("fault(0)", x.fault(0), -3);
-        t.due("fault(1)", x.fault(1), -3);
-        t.due("fault(2)", x.fault(2), -2);
-        t.due("fault(-1)", x.fault(-1), -2);
-        t.due("load() of none", x.load(), -11);
-        t.due("fault(0)", x.fault(0), 1);
-        t.due("fault(1)", x.fault(1), 0);
-        t.due("fault(2)", x.fault(2), -2);
-    }
-
-    private static void readWhole() {
+    private static void whole(DueSupport t) {
         GlulxSaves x = busy();
-        byte[] memory = DueSupport.chunk("CMem", DueSupport.fours(224),
-            DueSupport.bytes(0x81, 0, 0, 0xFF, 0, 171, 3));
-        t.dueLoads("whole", x, form(HEAD, memory, STACK, BLOCKS));
+        t.dueLoads("whole", x, form(HEAD, memory(224, 0x81, 0, 0, 0xFF, 0, 171, 3), stack(8, 9),
+            mall(2, 160, 8, 168, 9)));
         t.due("count(0)", x.count(0), 224);
         for (int i = 0; i < 224; i++) {
             int xored = i == 48 ? 0x81 : i == 50 ? 0xFF : i == 223 ? 3 : 0;
-            t.due("peek(" + i + ")", x.peek(i), DueSupport.original(SEED, END, i) ^ xored);
+            t.due("peek(" + i + ")", x.peek(i), original(SEED, END, i) ^ xored);
         }
         t.due("count(1)", x.count(1), 2);
         t.due("pop()", x.pop(), 9);
         t.due("pop()", x.pop(), 8);
-        t.due("free(168)", x.free(168), 8);
+        t.due("count(2)", x.count(2), 2);
+        t.due("free(168)", x.free(168), 9);
         t.due("free(160)", x.free(160), 8);
         t.due("free(170)", x.free(170), -1);
-        t.due("rows stay", x.count(4), 1);
-        t.due("the file stays", x.count(3), form(HEAD, memory, STACK, BLOCKS).length);
-        t.dueLoads("no blocks, another row", x, form(HEAD, STACK, MEMORY));
-        t.due("count(2)", x.count(2), 0);
     }
 
-    private static void readWithProtected() {
+    private static void signs(DueSupport t) {
         GlulxSaves x = busy();
-        x.poke(191, 44);
-        x.poke(190, 45);
-        x.protect(191, 100);
-        byte[] memory = DueSupport.chunk("CMem", DueSupport.fours(224),
-            DueSupport.bytes(0, 141, 2, 3, 4, 5));
-        t.dueLoads("protected", x, form(HEAD, memory, STACK));
-        t.due("not protected", x.peek(190), 2);
-        t.due("protected, below both", x.peek(191), 44);
-        t.due("protected, new", x.peek(192), 4);
-        t.due("protected, new", x.peek(193), 5);
-        x.poke(193, 66);
-        t.dueLoads("a smaller one", x, form(HEAD, DueSupport.chunk("CMem", DueSupport.fours(192)), STACK));
-        t.due("protected, below both", x.peek(191), 44);
-        t.due("beyond", x.peek(192), -1);
-        t.dueLoads("a larger one", x, form(HEAD, memory, STACK));
-        t.due("was not below M", x.peek(193), 5);
-        t.due("protect", x.protect(0, 512), 1);
-        x.poke(48, 1);
-        t.dueLoads("all", x, form(HEAD, MEMORY, STACK));
-        t.due("all stays", x.peek(48), 1);
-        t.due("all stays", x.peek(193), 5);
-    }
-
-    private static void front() {
-        byte[] good = form(HEAD, MEMORY, STACK);
-        for (int i = 0; i < 4; i++) {
-            fault("FORM " + i, with(good, i, 'x'), 2, i);
-            fault("IFZS " + i, with(good, 8 + i, 'x'), 2, 8 + i);
-            fault("FORM and its length", with(with(good, i, 'x'), 4, 1), 2, i);
-            fault("FORM, cut behind", Arrays.copyOf(with(good, i, 'x'), i + 1), 2, i);
-        }
-        fault("length above", with(good, 7, good.length - 7), 5, 4);
-        fault("length below", with(good, 7, good.length - 9), 5, 4);
-        fault("length below 0", with(good, 4, 0x80), 5, 4);
-        fault("length, then IFZS", with(with(good, 7, 1), 8, 'x'), 5, 4);
-        fault("IFZS, cut behind", seal(Arrays.copyOf(with(good, 9, 'x'), 10)), 2, 9);
-        fault("FORM alone", DueSupport.letters("FORM"), 1, 4);
-        fault("half a length", DueSupport.join(DueSupport.letters("FORM"), new byte[3]), 1, 7);
-        fault("no IFZS", DueSupport.join(DueSupport.letters("FORM"), new byte[4]), 1, 8);
-        fault("8 bytes, a wrong length", DueSupport.join(DueSupport.letters("FORM"), DueSupport.fours(4)), 5, 4);
-        fault("no chunks", form(), 8, 12);
-    }
-
-    /** Whole chunks alone let a file go on; where one ends, what lacks at the end counts. */
-    private static void everyCut() {
-        byte[] good = form(HEAD, MEMORY, STACK, BLOCKS);
-        int afterStack = good.length - BLOCKS.length;
-        for (int n = 0; n < good.length; n++) {
-            byte[] file = n < 8 ? Arrays.copyOf(good, n) : seal(Arrays.copyOf(good, n));
-            if (n == afterStack) {
-                t.dueLoads("cut at " + n, busy(), file);
-            } else {
-                boolean whole = n == 12 || n == 12 + HEAD.length || n == afterStack - STACK.length;
-                fault("cut at " + n, file, whole ? 8 : 1, n);
-            }
+        t.dueLoads("ints", x, form(HEAD, memory(160), stack(LEAST, MOST, -1, 0, 128, 0x7F80FF01)));
+        for (int v : new int[] {0x7F80FF01, 128, 0, -1, MOST, LEAST}) {
+            t.due("pop()", x.pop(), v);
         }
     }
 
-    private static void heads() {
-        byte[] good = form(HEAD, MEMORY, STACK);
-        for (int i = 0; i < 16; i++) {
-            fault("head " + i, with(good, 20 + i, good[20 + i] ^ 0x80), 3, 20 + i);
+    private static void widestMemory(DueSupport t) {
+        int[] all = new int[464];
+        for (int i = 0; i < all.length; i++) {
+            all[i] = 1 + i % 255;
         }
-        fault("the first of two", with(with(good, 22, good[22] ^ 1), 30, good[30] ^ 1), 3, 22);
-        fault("of another story", form(DueSupport.head(SEED + 1, END), MEMORY, STACK), 3, 20);
-    }
-
-    private static void seconds() {
-        int end = form(HEAD, MEMORY, STACK, BLOCKS).length;
-        byte[][] four = {HEAD, MEMORY, STACK, BLOCKS};
-        for (byte[] second : four) {
-            fault("second", form(HEAD, MEMORY, STACK, BLOCKS, second), 4, end);
-            byte[] lettersAlone = Arrays.copyOf(second, 4);
-            fault("second, letters alone", form(HEAD, MEMORY, STACK, BLOCKS, lettersAlone), 4, end);
-            byte[] longer = with(second, 4, 0xFF);
-            fault("second, then its length", form(HEAD, MEMORY, STACK, BLOCKS, longer), 4, end);
-        }
-        fault("second, empty", form(HEAD, DueSupport.chunk("Stks"), DueSupport.chunk("Stks"), MEMORY), 4, 44);
-    }
-
-    private static void missing() {
-        fault("no head ahead of CMem", form(MEMORY, HEAD, STACK), 8, 12);
-        fault("no head ahead of Stks", form(STACK, HEAD, MEMORY), 8, 12);
-        fault("no head ahead of MAll", form(BLOCKS, HEAD, MEMORY, STACK), 8, 12);
-        fault("no head, letters alone", form(DueSupport.letters("Stks")), 8, 12);
-        fault("no memory ahead of MAll", form(HEAD, BLOCKS, MEMORY, STACK), 8, 36);
-        fault("no memory, then its length", form(HEAD, with(BLOCKS, 4, 0xFF)), 8, 36);
-        fault("no memory at the end", form(HEAD, STACK), 8, form(HEAD, STACK).length);
-        fault("no stack at the end", form(HEAD, MEMORY, BLOCKS), 8, form(HEAD, MEMORY, BLOCKS).length);
-        fault("others alone", form(DueSupport.chunk("abcd")), 8, 20);
-        t.dueLoads("MAll ahead of Stks", busy(), form(HEAD, MEMORY, BLOCKS, STACK));
-    }
-
-    private static void lengths() {
-        for (int n : new int[] {0, 15, 17, 32, -1, -16, Integer.MIN_VALUE}) {
-            fault("IFhd " + n, form(raw("IFhd", n, 16)), 5, 16);
-        }
-        for (int n : new int[] {0, 3, -1, Integer.MIN_VALUE}) {
-            fault("CMem " + n, form(HEAD, raw("CMem", n, 16)), 5, 40);
-        }
-        for (int n : new int[] {1, 2, 3, 6, 161, 164, -4, Integer.MIN_VALUE, Integer.MAX_VALUE}) {
-            fault("Stks " + n, form(HEAD, raw("Stks", n, 16)), 5, 40);
-        }
-        int behind = 36 + MEMORY.length;
-        for (int n : new int[] {0, 4, 8, 11, 13, 16, 18, 24, 64, 72, 76, -4, Integer.MIN_VALUE}) {
-            fault("MAll " + n, form(HEAD, MEMORY, raw("MAll", n, 16)), 5, behind + 4);
-        }
-        for (int n : new int[] {-1, -2, Integer.MIN_VALUE}) {
-            fault("other " + n, form(raw("abcd", n, 16)), 5, 16);
-        }
-        byte[] huge = form(HEAD, raw("CMem", Integer.MAX_VALUE, 16));
-        fault("CMem max", huge, 1, huge.length);
-        byte[] lacking = form(HEAD, raw("CMem", 5, 5));
-        fault("the 0 behind lacks", lacking, 1, lacking.length);
         GlulxSaves x = busy();
-        int[] ints = new int[40];
-        Arrays.fill(ints, -3);
-        t.dueLoads("Stks 160", x, form(HEAD, MEMORY, DueSupport.chunk("Stks", DueSupport.fours(ints))));
-        t.due("count(1)", x.count(1), 40);
-        t.dueLoads("Stks 0", x, form(HEAD, MEMORY, DueSupport.chunk("Stks")));
-        t.due("count(1)", x.count(1), 0);
-    }
-
-    private static byte[] memory(int m, int... inside) {
-        return DueSupport.chunk("CMem", DueSupport.fours(m), DueSupport.bytes(inside));
-    }
-
-    private static void memories() {
-        for (int m : new int[] {0, 128, 159, 161, 176, 513, 544, -160, Integer.MIN_VALUE, Integer.MAX_VALUE}) {
-            fault("M " + m, form(HEAD, memory(m, 0), STACK), 6, 44);
+        t.dueLoads("464 bytes", x, form(HEAD, memory(512, all), stack()));
+        t.due("peek(47)", x.peek(47), original(SEED, END, 47));
+        for (int i : new int[] {48, 49, 159, 160, 161, 400, 510, 511}) {
+            t.due("peek(" + i + ")", x.peek(i), original(SEED, END, i) ^ all[i - 48]);
         }
-        for (int m = 160; m <= 512; m += 32) {
-            GlulxSaves x = busy();
-            t.dueLoads("M " + m, x, form(HEAD, memory(m), STACK));
-            t.due("count(0)", x.count(0), m);
-            t.due("peek", x.peek(m - 1), m == 160 ? DueSupport.original(SEED, END, 159) : 0);
-        }
-        // 112 bytes from RAM up to END
-        t.dueLoads("0s up to M", busy(), form(HEAD, memory(160, 0, 111), STACK));
-        t.dueLoads("a byte up to M", busy(), form(HEAD, memory(160, 0, 110, 1), STACK));
-        fault("0s beyond M", form(HEAD, memory(160, 0, 112), STACK), 6, 48);
-        fault("more 0s beyond M", form(HEAD, memory(160, 7, 0, 99, 0, 255), STACK), 6, 51);
-        fault("a byte beyond M", form(HEAD, memory(160, 0, 111, 1), STACK), 6, 50);
-        fault("a second byte beyond M", form(HEAD, memory(160, 0, 110, 1, 2), STACK), 6, 51);
-        fault("0s at M", form(HEAD, memory(160, 0, 111, 0, 0), STACK), 6, 50);
-        fault("a 0 without a number", form(HEAD, memory(160, 0), STACK), 6, 48);
-        fault("a 0 without a number, even", form(HEAD, memory(160, 5, 0), STACK), 6, 49);
-        fault("a 0 without a number, at M", form(HEAD, memory(160, 0, 111, 0), STACK), 6, 50);
-        t.dueLoads("256 0s", busy(), form(HEAD, memory(512, 0, 255, 0, 206, 9), STACK));
-        fault("beyond 512", form(HEAD, memory(512, 0, 255, 0, 206, 9, 9), STACK), 6, 53);
-        byte[] all = new byte[464];
-        Arrays.fill(all, (byte) 1);
-        GlulxSaves x = busy();
-        t.dueLoads("all bytes", x, form(HEAD, DueSupport.chunk("CMem", DueSupport.fours(512), all), STACK));
-        t.due("peek(511)", x.peek(511), 1);
-        t.due("peek(48)", x.peek(48), DueSupport.original(SEED, END, 48) ^ 1);
-        t.due("peek(47)", x.peek(47), DueSupport.original(SEED, END, 47));
+        t.due("peek(512)", x.peek(512), -1);
     }
 
-    private static void blocks() {
-        int[][] bad = {
-            {159, 1}, {160, 0}, {160, 65}, {160, -1}, {224, 1}, {223, 2}, {161, 64}, {-1, 1},
-            {Integer.MAX_VALUE, 64}, {Integer.MIN_VALUE, 64}, {160, Integer.MAX_VALUE}, {160, Integer.MIN_VALUE}};
-        int how = 36 + MEMORY.length + 8;
-        for (int[] b : bad) {
-            fault("block " + b[0] + " " + b[1], form(HEAD, MEMORY, STACK, mall(1, b[0], b[1])),
-                7, how + STACK.length + 4);
-        }
-        fault("how many, fewer", form(HEAD, MEMORY, mall(1, 160, 8, 168, 8)), 7, how);
-        fault("how many, more", form(HEAD, MEMORY, mall(3, 160, 8, 168, 8)), 7, how);
-        fault("how many, ahead of a block", form(HEAD, MEMORY, mall(-1, 0, 0)), 7, how);
-        fault("the same twice", form(HEAD, MEMORY, mall(2, 160, 8, 160, 8)), 7, how + 12);
-        fault("they meet", form(HEAD, MEMORY, mall(2, 160, 9, 168, 8)), 7, how + 12);
-        fault("not in row", form(HEAD, MEMORY, mall(2, 180, 8, 160, 8)), 7, how + 12);
-        fault("the third", form(HEAD, MEMORY, mall(3, 160, 8, 170, 8, 169, 1)), 7, how + 20);
-        fault("of M as CMem tells it", form(HEAD, memory(160), mall(1, 170, 5)), 7, how + 4);
-        GlulxSaves x = busy();
-        int[] eight = new int[17];
-        eight[0] = 8;
-        for (int k = 0; k < 8; k++) {
-            eight[1 + 2 * k] = 160 + 8 * k;
-            eight[2 + 2 * k] = 8;
-        }
-        t.dueLoads("eight, side by side", x, form(HEAD, MEMORY, STACK, mall(eight)));
-        t.due("count(2)", x.count(2), 8);
-        t.dueLoads("up to M", x, form(HEAD, MEMORY, STACK, mall(1, 160, 64)));
-        t.due("count(2)", x.count(2), 1);
-        eight[16] = 9;
-        eight[15] = 216;
-        fault("the eighth", form(HEAD, MEMORY, mall(eight)), 7, how + 4 + 56);
-    }
-
-    private static byte[] mall(int... values) {
-        return DueSupport.chunk("MAll", DueSupport.fours(values));
-    }
-
-    private static void others() {
-        byte[] other = DueSupport.chunk("abcd", new byte[2]);
-        byte[] four = DueSupport.join(other, other, other, other);
-        fault("a fifth", form(four, HEAD, MEMORY, STACK, other), 9, form(four, HEAD, MEMORY, STACK).length);
-        fault("a fifth, but below 0 first", form(four, raw("abcd", -2, 2)), 5, 12 + four.length + 4);
-        fault("a fifth, ahead of what lacks", form(four, raw("abcd", 50, 2)), 9, 12 + four.length);
-        byte[] noLength = form(four, DueSupport.letters("abcd"));
-        fault("a fifth without a length", noLength, 1, noLength.length);
-        fault("61 bytes", form(HEAD, DueSupport.chunk("abcd", new byte[61])), 9, 36);
-        fault("61 bytes that lack", form(HEAD, raw("abcd", 61, 0)), 9, 36);
-        fault("most bytes", form(HEAD, raw("abcd", Integer.MAX_VALUE, 0)), 9, 36);
-        byte[] lacking = form(HEAD, raw("abcd", 60, 59));
-        fault("60 bytes that lack", lacking, 1, lacking.length);
-        byte[] padding = form(HEAD, DueSupport.join(raw("abcd", 3, 3), DueSupport.bytes(1)), MEMORY, STACK);
-        fault("a byte behind", padding, 2, 36 + 11);
-        byte[] half = form(HEAD, MEMORY, STACK, DueSupport.bytes(65));
-        fault("a letter alone", half, 1, half.length);
-        GlulxSaves x = busy();
-        t.dueLoads("60 bytes", x, form(HEAD, DueSupport.chunk("abcd", new byte[60]), MEMORY, STACK));
-        t.due("count(6)", x.count(6), 60);
-        t.dueLoads("near the four", x, form(DueSupport.chunk("IFHD"), DueSupport.chunk("CMeM"),
-            DueSupport.chunk("stks"), DueSupport.chunk("FORM"), HEAD, MEMORY, STACK));
-        t.due("count(5)", x.count(5), 4);
-        t.due("count(6)", x.count(6), 0);
-        t.dueLoads("none", x, form(HEAD, MEMORY, STACK));
-        t.due("count(5)", x.count(5), 0);
-    }
-
-    private static void othersAreKept() {
-        byte[] one = DueSupport.chunk("\u00ff\u0000\u0080a", DueSupport.bytes(1, 2, 255));
-        byte[] two = DueSupport.chunk("none");
-        byte[] three = DueSupport.chunk("none", DueSupport.bytes(7, 0, 0, 0));
+    private static void leftOut(DueSupport t) {
         GlulxSaves x = new GlulxSaves(SEED, RAM, END);
-        t.dueLoads("others", x, form(one, HEAD, two, MEMORY, BLOCKS, three, STACK));
-        x.save();
-        t.dueFile("others behind", x, form(HEAD, MEMORY, STACK, BLOCKS, one, two, three));
-        t.dueFault("a fault", x, form(DueSupport.chunk("more"), HEAD), 8, 44);
-        x.mark();
+        x.resize(512);
+        for (int i = 48; i < 160; i += 8) {
+            x.poke(i, 255 ^ original(SEED, END, i));
+        }
+        x.poke(160, 1);
+        x.poke(511, 2);
+        t.dueLoads("nothing told", x, form(HEAD, memory(512), stack()));
+        GlulxSaves fresh = new GlulxSaves(SEED, RAM, END);
+        fresh.resize(512);
+        t.due("hash()", x.hash(), fresh.hash());
+    }
+
+    private static void stacks(DueSupport t) {
+        int[] ints = new int[40];
+        for (int k = 0; k < 40; k++) {
+            ints[k] = 1000 - k * 77;
+        }
+        GlulxSaves x = busy();
+        t.dueLoads("40", x, form(HEAD, memory(160), stack(ints)));
+        t.due("push on 40", x.push(1), -4);
+        for (int k = 39; k >= 0; k--) {
+            t.due("pop()", x.pop(), ints[k]);
+        }
+        x.push(5);
+        t.dueLoads("0", x, form(HEAD, memory(160), stack()));
+        t.due("count(1)", x.count(1), 0);
+        t.duePopThrows("0", x);
+    }
+
+    private static void noBlocks(DueSupport t) {
+        GlulxSaves x = busy();
+        t.dueLoads("no MAll", x, form(HEAD, memory(192), stack()));
+        t.due("count(2)", x.count(2), 0);
+        t.due("free(170)", x.free(170), -1);
+        t.due("its room", x.block(160, 32), 1);
+    }
+
+    private static void others(DueSupport t) {
+        GlulxSaves x = busy();
+        byte[] one = chunk("abcd", bytes(1, 2, 3));
+        t.dueLoads("two", x, form(one, HEAD, memory(160), stack(), one));
+        t.due("count(5)", x.count(5), 2);
+        t.due("count(6)", x.count(6), 6);
+        t.dueLoads("another one", x, form(HEAD, memory(160), stack(), chunk("last", bytes(9))));
+        t.dueSaves("in place of the two", x, form(HEAD, memory(160), stack(), chunk("last", bytes(9))));
+        t.dueLoads("none", x, form(HEAD, memory(160), stack()));
+        t.due("count(5)", x.count(5), 0);
+        t.due("count(6)", x.count(6), 0);
+    }
+
+    private static void nearLetters(DueSupport t) {
+        GlulxSaves x = busy();
+        byte[] file = form(chunk("IFHD"), chunk("CMeM", bytes(1)), chunk("stks"), chunk("FORM"),
+            HEAD, memory(160), stack());
+        t.dueLoads("near the four", x, file);
+        t.due("count(5)", x.count(5), 4);
+        t.due("count(6)", x.count(6), 1);
+        t.dueLoads("bytes that are no letters", x, form(HEAD, memory(160), stack(),
+            chunk("\u0000\u0000\u0000\u0000"), chunk("\u00ff\u00ff\u00ff\u00ff", bytes(255, 255))));
+        t.due("count(5)", x.count(5), 2);
+    }
+
+    private static void protectedBelowBoth(DueSupport t) {
+        GlulxSaves x = busy();
+        x.poke(100, 41);
+        x.poke(101, 42);
+        x.poke(102, 43);
+        x.poke(103, 44);
+        x.protect(101, 2);
+        t.dueLoads("a span", x, form(HEAD, memory(192, 0, 51, 1, 2, 3, 4), stack()));
+        t.due("the byte ahead", x.peek(100), original(SEED, END, 100) ^ 1);
+        t.due("its first byte", x.peek(101), 42);
+        t.due("its last byte", x.peek(102), 43);
+        t.due("the byte behind", x.peek(103), original(SEED, END, 103) ^ 4);
+        x.protect(0, 512);
+        t.dueLoads("all of it", x, form(HEAD, memory(192, 9), stack()));
+        t.due("all stays", x.peek(48), original(SEED, END, 48));
+        t.due("all stays", x.peek(103), original(SEED, END, 103) ^ 4);
+    }
+
+    private static void protectedButNew(DueSupport t) {
+        GlulxSaves x = busy();
+        x.poke(190, 45);
+        x.poke(191, 44);
+        x.protect(191, 100);
+        t.dueLoads("a larger M", x, form(HEAD, memory(224, 0, 141, 2, 3, 4, 5), stack()));
+        t.due("not protected", x.peek(190), 2);
+        t.due("the last byte that was", x.peek(191), 44);
+        t.due("the first new byte", x.peek(192), 4);
+        t.due("a new byte", x.peek(193), 5);
+        t.due("a new byte that is not told", x.peek(194), 0);
+    }
+
+    private static void protectedButGone(DueSupport t) {
+        GlulxSaves x = busy();
+        x.poke(159, 43);
+        x.poke(160, 44);
+        x.poke(191, 45);
+        x.free(170);
+        x.protect(159, 100);
+        t.dueLoads("a smaller M", x, form(HEAD, memory(160), stack()));
+        t.due("the last byte", x.peek(159), 43);
+        t.due("beyond", x.peek(160), -1);
+        t.dueLoads("a larger M", x, form(HEAD, memory(192, 0, 111, 7), stack()));
+        t.due("it was not below M", x.peek(160), 7);
+        t.due("it was not below M", x.peek(191), 0);
+        t.due("it was", x.peek(159), 43);
+    }
+
+    private static void nothingChanges(DueSupport t) {
+        byte[] one = chunk("abcd", bytes(1, 2, 3));
+        GlulxSaves x = new GlulxSaves(SEED, RAM, END);
+        byte[] good = form(HEAD, memory(192, 5), stack(7), mall(1, 170, 3), one);
+        t.dueLoads("good", x, good);
+        byte[] late = form(chunk("more", bytes(9)), HEAD, memory(224, 6), mall(1, 160, 9), stack(1, 2), letters("x"));
+        t.dueFault("all is told, then a byte lacks", x, late, 1, late.length);
+        t.dueFile("nor the file", x, late);
+        t.dueSaves("as it was", x, good);
+    }
+
+    private static void whatStays(DueSupport t) {
+        GlulxSaves x = busy();
+        int marked = x.hash();
+        x.protect(60, 1);
+        x.poke(60, 2);
+        byte[] file = form(HEAD, memory(160), stack());
+        t.dueLoads("good", x, file);
+        t.dueFile("the file", x, file);
+        t.due("rows", x.count(4), 1);
+        t.due("protected", x.peek(60), 2);
+        x.poke(60, 1);
+        t.due("undo()", x.undo(), 0);
+        t.due("the row", x.hash(), marked);
         x.restart();
-        x.undo();
+        t.due("protected still", x.peek(60), 1);
+    }
+
+    private static void roundTrip(DueSupport t) {
+        GlulxSaves x = busy();
+        x.poke(48, 0);
+        x.poke(159, 0);
+        x.poke(191, 200);
+        x.push(LEAST);
+        x.block(160, 1);
+        int saved = x.hash();
         x.save();
-        t.dueFile("others stay", x, form(HEAD, MEMORY, STACK, BLOCKS, one, two, three));
+        x.restart();
+        t.due("load()", x.load(), 1);
+        t.due("hash()", x.hash(), saved);
+        t.due("load() again", x.load(), 1);
+        t.due("hash()", x.hash(), saved);
     }
 
-    private static void orderInAChunk() {
-        byte[] odd = raw("CMem", 5, 5);
-        byte[] good = form(HEAD, DueSupport.join(odd, DueSupport.bytes(1)), STACK);
-        fault("the byte behind, then what is inside", good, 2, 36 + 8 + 5);
-        fault("lacking, then what is inside", form(HEAD, raw("CMem", 8, 7)), 1, form(HEAD, raw("CMem", 8, 7)).length);
-        fault("the length, then lacking", form(raw("IFhd", 14, 2)), 5, 16);
-        byte[] cut = form(HEAD, raw("Stks", 8, 7));
-        fault("lacking", cut, 1, cut.length);
-        fault("the first chunk's fault", form(HEAD, memory(1), STACK, STACK), 6, 44);
-        byte[] half = form(HEAD, DueSupport.letters("CMem"), DueSupport.bytes(255, 255, 255));
-        fault("half a length", half, 1, half.length);
-    }
-
-    private static void latestFaultStays() {
+    private static void latestFault(DueSupport t) {
         GlulxSaves x = new GlulxSaves(SEED, RAM, END);
         t.due("load() of none", x.load(), -11);
-        t.dueLoads("a good one", x, form(HEAD, MEMORY, STACK));
-        t.due("fault(0)", x.fault(0), 1);
-        t.due("fault(1)", x.fault(1), 0);
-        x.restart();
-        x.alter(0, 1);
+        x.save();
+        t.due("load() of a good one", x.load(), 1);
+        t.due("the latest still: itself", x.fault(0), 1);
+        t.due("the latest still: its place", x.fault(1), 0);
+        x.alter(9, 1);
         t.due("load()", x.load(), -12);
-        t.due("fault(0)", x.fault(0), 2);
-        t.due("fault(1)", x.fault(1), 0);
+        t.due("a later one: itself", x.fault(0), 2);
+        t.due("a later one: its place", x.fault(1), 9);
+        x.restart();
+        x.save();
+        t.due("other calls leave it: itself", x.fault(0), 2);
+        t.due("other calls leave it: its place", x.fault(1), 9);
     }
 
-    private static byte[] raw(String name, int length, int bytes) {
-        return DueSupport.join(DueSupport.letters(name), DueSupport.fours(length), new byte[bytes]);
+    private static void faultBounds(DueSupport t) {
+        GlulxSaves x = new GlulxSaves(SEED, RAM, END);
+        int[] bad = {-1, 2, 3, LEAST, MOST};
+        for (int what : bad) {
+            t.due("fault(" + what + ") of none", x.fault(what), -2);
+        }
+        x.load();
+        for (int what : bad) {
+            t.due("fault(" + what + ")", x.fault(what), -2);
+        }
     }
 
-    private static byte[] with(byte[] file, int i, int v) {
-        byte[] made = file.clone();
-        made[i] = (byte) v;
-        return made;
-    }
-
-    private static byte[] seal(byte[] file) {
-        byte[] made = file.clone();
-        System.arraycopy(DueSupport.fours(file.length - 8), 0, made, 4, 4);
-        return made;
+    private static void noFault(DueSupport t) {
+        GlulxSaves x = new GlulxSaves(SEED, RAM, END);
+        t.due("fault(0)", x.fault(0), -3);
+        t.due("fault(1)", x.fault(1), -3);
+        x.save();
+        x.load();
+        t.due("fault(0) behind a good one", x.fault(0), -3);
+        t.due("fault(1) behind a good one", x.fault(1), -3);
     }
 }

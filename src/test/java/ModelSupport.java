@@ -51,7 +51,7 @@ final class ModelSupport {
     private Row fresh(int m) {
         byte[] memory = new byte[m];
         for (int i = 0; i < m; i++) {
-            memory[i] = (byte) DueSupport.original(seed, end, i);
+            memory[i] = (byte) FileSupport.original(seed, end, i);
         }
         return new Row(memory, new ArrayList<>(), new TreeMap<>());
     }
@@ -160,20 +160,20 @@ final class ModelSupport {
 
     long save() {
         List<byte[]> chunks = new ArrayList<>();
-        chunks.add(DueSupport.head(seed, end));
-        chunks.add(DueSupport.chunk("CMem", DueSupport.fours(now.memory().length), differences()));
-        chunks.add(DueSupport.chunk("Stks", DueSupport.fours(
+        chunks.add(FileSupport.head(seed, end));
+        chunks.add(FileSupport.chunk("CMem", FileSupport.fours(now.memory().length), differences()));
+        chunks.add(FileSupport.chunk("Stks", FileSupport.fours(
             now.stack().stream().mapToInt(Integer::intValue).toArray())));
         if (!now.blocks().isEmpty()) {
             ByteArrayOutputStream inside = new ByteArrayOutputStream();
-            inside.writeBytes(DueSupport.fours(now.blocks().size()));
-            now.blocks().forEach((s, l) -> inside.writeBytes(DueSupport.fours(s, l)));
-            chunks.add(DueSupport.chunk("MAll", inside.toByteArray()));
+            inside.writeBytes(FileSupport.fours(now.blocks().size()));
+            now.blocks().forEach((s, l) -> inside.writeBytes(FileSupport.fours(s, l)));
+            chunks.add(FileSupport.chunk("MAll", inside.toByteArray()));
         }
         for (Other o : others) {
-            chunks.add(DueSupport.chunk(o.name(), o.inside()));
+            chunks.add(FileSupport.chunk(o.name(), o.inside()));
         }
-        byte[] made = DueSupport.form(chunks.toArray(new byte[0][]));
+        byte[] made = FileSupport.form(chunks.toArray(new byte[0][]));
         if (made.length > 1200) {
             return -4;
         }
@@ -184,17 +184,17 @@ final class ModelSupport {
     private byte[] differences() {
         byte[] memory = now.memory();
         int last = memory.length;
-        while (last > ram && (memory[last - 1] & 255) == DueSupport.original(seed, end, last - 1)) {
+        while (last > ram && (memory[last - 1] & 255) == FileSupport.original(seed, end, last - 1)) {
             last--;
         }
         ByteArrayOutputStream out = new ByteArrayOutputStream();
         int i = ram;
         while (i < last) {
-            int d = memory[i] & 255 ^ DueSupport.original(seed, end, i);
+            int d = memory[i] & 255 ^ FileSupport.original(seed, end, i);
             out.write(d);
             int run = 1;
             if (d == 0) {
-                while (run < 256 && (memory[i + run] & 255) == DueSupport.original(seed, end, i + run)) {
+                while (run < 256 && (memory[i + run] & 255) == FileSupport.original(seed, end, i + run)) {
                     run++;
                 }
                 out.write(run - 1);
@@ -307,7 +307,7 @@ final class ModelSupport {
 
     private void readHead(int p) throws Fault {
         for (int i = 0; i < 16; i++) {
-            if (byteOf(p + i) != DueSupport.original(seed, end, i)) {
+            if (byteOf(p + i) != FileSupport.original(seed, end, i)) {
                 throw new Fault(3, p + i);
             }
         }
@@ -415,7 +415,7 @@ final class ModelSupport {
             return -4;
         }
         byte[] all = ByteBuffer.allocate(8).putLong(w).array();
-        file = DueSupport.join(file, Arrays.copyOfRange(all, 8 - n, 8));
+        file = FileSupport.join(file, Arrays.copyOfRange(all, 8 - n, 8));
         return file.length;
     }
 

@@ -2,7 +2,7 @@ import java.util.Arrays;
 import java.util.Random;
 
 /** Long runs of calls (the same ones each time), each answer beside the model's. */
-public final class ModelTest {
+public final class ModelTest extends FileSupport {
     private static final int RUNS = 6000;
     private static final int[] EDGES = {
         Integer.MIN_VALUE, Integer.MAX_VALUE, -2, -1, 0, 1, 2, 8, 9, 15, 16, 60, 61, 64, 65, 127, 128,
@@ -175,7 +175,7 @@ public final class ModelTest {
     /** A file of chunks that are mostly right, in a row that is mostly right, then loaded. */
     private void madeFile() {
         due("cut(0)", x.cut(0), model.cut(0));
-        add(DueSupport.letters("FORM\0\0\0\0IFZS"));
+        add(letters("FORM\0\0\0\0IFZS"));
         int[] row = {0, 1, 2, 3};
         for (int k : row) {
             if (random.nextInt(4) == 0) {
@@ -194,9 +194,9 @@ public final class ModelTest {
 
     private byte[] chunk(int kind) {
         byte[] made = switch (kind) {
-            case 0 -> DueSupport.head(storySeed, end);
+            case 0 -> head(storySeed, end);
             case 1 -> memory();
-            case 2 -> DueSupport.chunk("Stks", new byte[4 * random.nextInt(random.nextInt(9) == 0 ? 43 : 6)]);
+            case 2 -> chunk("Stks", new byte[4 * random.nextInt(random.nextInt(9) == 0 ? 43 : 6)]);
             case 3 -> blocks();
             default -> other();
         };
@@ -212,7 +212,7 @@ public final class ModelTest {
         for (int i = 0; i < inside.length; i++) {
             inside[i] = (byte) (random.nextInt(3) == 0 ? 0 : random.nextInt(256));
         }
-        return DueSupport.chunk("CMem", DueSupport.fours(m), inside);
+        return chunk("CMem", fours(m), inside);
     }
 
     private byte[] blocks() {
@@ -227,14 +227,14 @@ public final class ModelTest {
             told[2 + 2 * k] = random.nextInt(20) == 0 ? near(66) : length;
             start += length - (random.nextInt(20) == 0 ? 1 : 0);
         }
-        return DueSupport.chunk("MAll", DueSupport.fours(told));
+        return chunk("MAll", fours(told));
     }
 
     private byte[] other() {
         byte[] inside = new byte[random.nextInt(random.nextInt(6) == 0 ? 63 : 7)];
         random.nextBytes(inside);
         String[] names = {"abcd", "IFHD", "\u00ff\u0001\u0080\u0000", "FORM", "Cmem"};
-        return DueSupport.chunk(names[random.nextInt(names.length)], inside);
+        return chunk(names[random.nextInt(names.length)], inside);
     }
 
     private void add(byte[] bytes) {
