@@ -1,13 +1,7 @@
 import java.util.Arrays;
 
 /** The FAULTS of promises 11 and 12, sentence by sentence: which one, at which place, and what just is none. */
-public final class FaultTest extends FileSupport {
-    private static final int LEAST = Integer.MIN_VALUE;
-    private static final int MOST = Integer.MAX_VALUE;
-    private static final int SEED = 6;
-    private static final int RAM = 48;
-    private static final int END = 160;
-    private static final byte[] HEAD = head(SEED, END);
+public final class FaultTest extends ReadSupport {
     private static final byte[] MEMORY = memory(224);
     private static final byte[] STACK = stack(8, 9);
     private static final byte[] BLOCKS = mall(2, 160, 8, 168, 8);
@@ -20,6 +14,7 @@ public final class FaultTest extends FileSupport {
         SentenceSupport s = new SentenceSupport("FaultTest", args);
         s.holds("11: 1 a byte lacks: of an empty file", FaultTest::emptyFile);
         s.holds("11: 1 a byte lacks (the place: how many there are)", FaultTest::everyCut);
+        s.holds("11: 1 a byte lacks: also one that was there ahead of a cut", FaultTest::lackingBehindACut);
         s.holds("11: 2 a letter of FORM, IFZS is another one", FaultTest::frontLetters);
         s.holds("11: 2 a byte behind an odd CHUNK is not 0", FaultTest::byteBehind);
         s.holds("11: 3 a byte of IFhd is not HEAD's", FaultTest::heads);
@@ -52,17 +47,6 @@ public final class FaultTest extends FileSupport {
         s.holds("11: of a CHUNK: 2, and then what is in it", FaultTest::byteBehindAheadOfInside);
         s.holds("11: READ, from the first byte on", FaultTest::firstOfSeveral);
         s.finish();
-    }
-
-    /** An object with something of everything, so that a change by a refused file would show. */
-    private static GlulxSaves busy() {
-        GlulxSaves x = new GlulxSaves(SEED, RAM, END);
-        x.resize(192);
-        x.poke(60, 1);
-        x.push(77);
-        x.block(170, 5);
-        x.mark();
-        return x;
     }
 
     private static void fault(DueSupport t, String name, byte[] file, int fault, int place) {
@@ -100,6 +84,28 @@ public final class FaultTest extends FileSupport {
         fault(t, "one letter more", letter, 1, letter.length);
         byte[] noLength = form(HEAD, MEMORY, STACK, letters("abcd"));
         fault(t, "letters alone", noLength, 1, noLength.length);
+    }
+
+    private static void lackingBehindACut(DueSupport t) {
+        byte[] twice = form(HEAD, MEMORY, STACK, BLOCKS, raw("Stks", 0, 0));
+        byte[] below0 = form(HEAD, MEMORY, STACK, BLOCKS, raw("abcd", -1, 0));
+        for (int n = 1; n < 8; n++) {
+            dueBehindACut(t, "a second one", twice, GOOD.length + n, n < 4 ? 1 : 4);
+            dueBehindACut(t, "a LENGTH below 0", below0, GOOD.length + n, 1);
+        }
+        for (int n = 0; n < 4; n++) {
+            dueBehindACut(t, "FORM", GOOD, n, 1);
+            dueBehindACut(t, "IFZS", GOOD, 8 + n, 1);
+        }
+    }
+
+    private static void dueBehindACut(DueSupport t, String name, byte[] file, int n, int fault) {
+        GlulxSaves x = busy();
+        put(x, file);
+        x.cut(n);
+        x.seal();
+        t.due(name + " cut at " + n + ": load()", x.load(), -10 - fault);
+        t.due(name + " cut at " + n + ": fault(1)", x.fault(1), fault == 1 ? n : GOOD.length);
     }
 
     private static void frontLetters(DueSupport t) {

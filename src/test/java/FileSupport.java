@@ -3,6 +3,9 @@ import java.nio.charset.StandardCharsets;
 
 /** Makes files byte by byte, apart from the class; tests extend it to use its names plainly. */
 abstract class FileSupport {
+    static final int LEAST = Integer.MIN_VALUE;
+    static final int MOST = Integer.MAX_VALUE;
+
     static void put(GlulxSaves x, byte[] file) {
         x.cut(0);
         for (int i = 0; i < file.length; i += 8) {

@@ -1,12 +1,5 @@
 /** Promises 11 and 12: what a file without a fault brings back, what stays, and what is told of the latest fault. */
-public final class LoadTest extends FileSupport {
-    private static final int LEAST = Integer.MIN_VALUE;
-    private static final int MOST = Integer.MAX_VALUE;
-    private static final int SEED = 6;
-    private static final int RAM = 48;
-    private static final int END = 160;
-    private static final byte[] HEAD = head(SEED, END);
-
+public final class LoadTest extends ReadSupport {
     public static void main(String[] args) {
         SentenceSupport s = new SentenceSupport("LoadTest", args);
         s.holds("11: M, BLOCKS, STACK are as it tells; MEMORY, too", LoadTest::whole);
@@ -14,6 +7,7 @@ public final class LoadTest extends FileSupport {
         s.holds("11: MEMORY: from RAM up to 512", LoadTest::widestMemory);
         s.holds("11: MEMORY: what is left out is ORIGINAL", LoadTest::leftOut);
         s.holds("11: STACK: 0 and 40 ints", LoadTest::stacks);
+        s.holds("11: THE FILE has 1200 bytes at most: its last FOUR", LoadTest::lastFour);
         s.holds("11: BLOCKS: none without MAll", LoadTest::noBlocks);
         s.holds("11: OTHERS (those of THE FILE)", LoadTest::others);
         s.holds("11: OTHERS: letters near the four", LoadTest::nearLetters);
@@ -27,16 +21,6 @@ public final class LoadTest extends FileSupport {
         s.holds("12: -2", LoadTest::faultBounds);
         s.holds("12: -3: there was none", LoadTest::noFault);
         s.finish();
-    }
-
-    private static GlulxSaves busy() {
-        GlulxSaves x = new GlulxSaves(SEED, RAM, END);
-        x.resize(192);
-        x.poke(60, 1);
-        x.push(77);
-        x.block(170, 5);
-        x.mark();
-        return x;
     }
 
     private static void whole(DueSupport t) {
@@ -108,6 +92,24 @@ public final class LoadTest extends FileSupport {
         t.dueLoads("0", x, form(HEAD, memory(160), stack()));
         t.due("count(1)", x.count(1), 0);
         t.duePopThrows("0", x);
+    }
+
+    /** Rows of one 0 each make the memory's telling as long as it has to be. */
+    private static byte[] longest(byte[] last) {
+        byte[] other = chunk("abcd", new byte[60]);
+        byte[] ahead = join(HEAD, other, other, other, other);
+        return form(ahead, memory(512, new int[1200 - 12 - ahead.length - 12 - last.length]), last);
+    }
+
+    private static void lastFour(DueSupport t) {
+        int[] ints = new int[40];
+        ints[39] = 0x81020304;
+        GlulxSaves x = new GlulxSaves(SEED, RAM, END);
+        t.dueLoads("an int", x, longest(stack(ints)));
+        t.due("count(3)", x.count(3), 1200);
+        t.due("pop()", x.pop(), 0x81020304);
+        t.dueFault("letters", x, longest(join(stack(), letters("Stks"))), 4, 1196);
+        t.dueFault("a LENGTH", busy(), longest(join(stack(), raw("MAll", 0, 0))), 5, 1196);
     }
 
     private static void noBlocks(DueSupport t) {

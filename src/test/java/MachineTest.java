@@ -1,8 +1,5 @@
 /** The story and promises 1 to 9: memory, the stack, blocks, what is protected. */
 public final class MachineTest extends FileSupport {
-    private static final int LEAST = Integer.MIN_VALUE;
-    private static final int MOST = Integer.MAX_VALUE;
-
     public static void main(String[] args) {
         SentenceSupport s = new SentenceSupport("MachineTest", args);
         s.holds("1: RAM (16 to 96, by 16s), what is not as told is 16", MachineTest::rams);
@@ -33,6 +30,7 @@ public final class MachineTest extends FileSupport {
         s.holds("8: the BLOCK with a START goes: its LENGTH", MachineTest::frees);
         s.holds("8: -1", MachineTest::freeOfNone);
         s.holds("9: PROTECTED becomes n bytes from a place on", MachineTest::protectedSpan);
+        s.holds("9: a span of MEMORY: also where M does not reach yet", MachineTest::protectedBeyondM);
         s.holds("9: n 0: none", MachineTest::protectedNone);
         s.holds("9: -2: place 0 to 511", MachineTest::protectedPlaces);
         s.holds("9: -2: n 0 to 512", MachineTest::protectedNumbers);
@@ -435,6 +433,23 @@ public final class MachineTest extends FileSupport {
         dueSpan(t, x, 126, 128);
         t.due("protect(0, 18)", x.protect(0, 18), 1);
         dueSpan(t, x, 16, 18);
+    }
+
+    private static void protectedBeyondM(DueSupport t) {
+        GlulxSaves x = new GlulxSaves(1, 16, 128);
+        t.due("protect(200, 312)", x.protect(200, 312), 1);
+        x.resize(512);
+        x.save();
+        for (int i : new int[] {199, 200, 511}) {
+            x.poke(i, 9);
+        }
+        x.load();
+        t.due("the byte ahead", x.peek(199), 0);
+        t.due("its first byte", x.peek(200), 9);
+        t.due("its last byte", x.peek(511), 9);
+        x.restart();
+        t.due("beyond END", x.resize(512), 128);
+        t.due("a new byte", x.peek(200), 0);
     }
 
     private static void protectedNone(DueSupport t) {

@@ -102,7 +102,7 @@ public final class RefusalTest extends FileSupport {
 
     /**
      * Every byte from RAM up to M is another than the original, so that any change of the span shows;
-     * the file is refused again with the same fault.
+     * the file is one that was refused ahead of all that, so that a load finds the same fault again.
      */
     private static GlulxSaves busy() {
         GlulxSaves x = new GlulxSaves(SEED, RAM, END);
@@ -110,6 +110,9 @@ public final class RefusalTest extends FileSupport {
         Arrays.fill(differs, 0x55);
         put(x, form(head(SEED, END), memory(160, differs), stack(1, -2), mall(2, 130, 5, 140, 6),
             chunk("abcd", bytes(1, 2, 3))));
+        x.alter(1, 1);
+        x.load();
+        x.alter(1, 1);
         x.load();
         x.mark();
         x.poke(100, 0);
@@ -118,7 +121,6 @@ public final class RefusalTest extends FileSupport {
         x.protect(110, 5);
         x.poke(112, 7);
         x.alter(1, 1);
-        x.load();
         x.cut(20);
         return x;
     }

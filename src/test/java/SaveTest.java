@@ -2,8 +2,6 @@ import java.util.Arrays;
 
 /** What is written, and promises 10 and 16 to 22: the file's bytes, counts, the number of it all. */
 public final class SaveTest extends FileSupport {
-    private static final int LEAST = Integer.MIN_VALUE;
-    private static final int MOST = Integer.MAX_VALUE;
     private static final byte[] HEAD = head(0, 128);
 
     public static void main(String[] args) {
@@ -11,6 +9,7 @@ public final class SaveTest extends FileSupport {
         s.holds("10: FORM, how many bytes come behind, IFZS, then CHUNKS", SaveTest::plain);
         s.holds("10: IFhd: HEAD as it is ORIGINAL: the first 16", SaveTest::headBytes);
         s.holds("10: for each byte from RAM up to M what it is xored", SaveTest::xored);
+        s.holds("10: up to M: what is no longer below it is not told", SaveTest::noLongerBelowM);
         s.holds("10: of 0s in row up to 256 at a time", SaveTest::zeros);
         s.holds("10: 0s behind the last other one are left out", SaveTest::zerosBehind);
         s.holds("10: a 0 more if that is odd", SaveTest::odd);
@@ -18,6 +17,7 @@ public final class SaveTest extends FileSupport {
         s.holds("10: MAll (with BLOCKS alone)", SaveTest::blocksAlone);
         s.holds("10: MAll: by STARTS", SaveTest::blocksByStarts);
         s.holds("10: then the OTHERS, as they came", SaveTest::others);
+        s.holds("10: OTHERS: 4 of 60 bytes each", SaveTest::fullOthers);
         s.holds("10: in place of what was", SaveTest::inPlace);
         s.holds("10: THE FILE has 1200 bytes at most", SaveTest::longest);
         s.holds("10: -4: above 1200", SaveTest::tooLong);
@@ -77,6 +77,23 @@ public final class SaveTest extends FileSupport {
         x.poke(128, 255);
         t.dueSaves("both sides of END", x, form(head(-9, 128),
             memory(224, 0, 2, 0xFF, 0, 90, original(-9, 128, 127), 255, 0, 93, 5), stack()));
+    }
+
+    private static void noLongerBelowM(DueSupport t) {
+        GlulxSaves x = small();
+        byte[] due = form(HEAD, memory(160), stack());
+        for (int place : new int[] {160, 191, 511}) {
+            x.resize(512);
+            x.poke(place, 9);
+            x.resize(160);
+            t.dueSaves(place + " was written", x, due);
+        }
+        x.resize(512);
+        x.poke(128, 9);
+        x.push(5);
+        x.block(300, 2);
+        x.restart();
+        t.dueSaves("restarted", x, form(HEAD, memory(128), stack()));
     }
 
     private static void zeros(DueSupport t) {
@@ -162,6 +179,23 @@ public final class SaveTest extends FileSupport {
         t.dueSaves("four", x, form(HEAD, memory(160), stack(), mall(1, 128, 2), one, two, three, four));
         t.dueLoads("none", x, form(HEAD, memory(128), stack()));
         t.due("save()", x.save(), 56);
+    }
+
+    private static void fullOthers(DueSupport t) {
+        byte[][] four = new byte[4][];
+        for (int k = 0; k < 4; k++) {
+            byte[] inside = new byte[60];
+            for (int i = 0; i < 60; i++) {
+                inside[i] = (byte) (60 * k + i + 1);
+            }
+            four[k] = chunk("abc" + k, inside);
+        }
+        GlulxSaves x = small();
+        byte[] file = form(HEAD, memory(128), stack(), four[0], four[1], four[2], four[3]);
+        t.dueLoads("240 bytes", x, file);
+        t.due("count(5)", x.count(5), 4);
+        t.due("count(6)", x.count(6), 240);
+        t.dueSaves("240 bytes", x, file);
     }
 
     private static void inPlace(DueSupport t) {

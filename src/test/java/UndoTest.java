@@ -35,6 +35,9 @@ public final class UndoTest extends FileSupport {
 
     private static void asTheyAreThen(DueSupport t) {
         GlulxSaves x = small();
+        x.mark();
+        x.undo();
+        x.poke(16, 7);
         x.push(1);
         x.resize(256);
         x.poke(200, 9);
@@ -80,25 +83,30 @@ public final class UndoTest extends FileSupport {
         GlulxSaves x = small();
         int empty = x.hash();
         x.mark();
-        x.resize(512);
-        for (int k = 0; k < 40; k++) {
-            x.push(k);
-            x.poke(472 + k, 255);
-        }
-        for (int k = 0; k < 8; k++) {
-            x.block(448 - 32 * k, 32);
-        }
+        fill(x, 1, 480);
         int full = x.hash();
         x.mark();
         x.restart();
+        fill(x, 2, 448);
         x.undo();
         t.due("full", x.hash(), full);
         t.due("no room for an int", x.push(1), -4);
-        t.due("no room for a block", x.block(480, 1), -4);
+        t.due("no room for a block", x.block(128, 1), -4);
         x.undo();
         t.due("empty", x.hash(), empty);
         t.duePopThrows("empty", x);
         t.due("no block", x.count(2), 0);
+    }
+
+    private static void fill(GlulxSaves x, int v, int lastStart) {
+        x.resize(512);
+        for (int k = 0; k < 40; k++) {
+            x.push(k * v);
+            x.poke(472 + k, v);
+        }
+        for (int k = 0; k < 8; k++) {
+            x.block(lastStart - 32 * k, 32);
+        }
     }
 
     private static void latestComesBack(DueSupport t) {
@@ -148,6 +156,8 @@ public final class UndoTest extends FileSupport {
         x.poke(128, 2);
         x.poke(159, 3);
         x.mark();
+        x.poke(128, 77);
+        x.poke(159, 78);
         x.resize(128);
         x.poke(127, 4);
         t.due("undo() to a larger M", x.undo(), 1);
